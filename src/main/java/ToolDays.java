@@ -948,7 +948,8 @@ public final class ToolDays {
             int most = Math.min(sheet.size, town.stepCounts[thing]);
             for (int i = 0; i < most; i++) {
                 int day = sheet.numbers[i];
-                if (i == 0 && !within(day, 0, MOST_DAY)) {
+                // A number below 0 could be taken for the NEXT that there isn't.
+                if (day < 0 || (i == 0 && day > MOST_DAY)) {
                     return i;
                 }
                 int ahead = i == 0 ? day : sheet.numbers[i - 1];

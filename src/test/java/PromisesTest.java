@@ -135,11 +135,11 @@ public final class PromisesTest {
         String[] texts = {"", "   ", ";", "round", "round ", "round 7;", "round 7 7", "round x", "round,", "Round 7",
             "round 13", "round 0", "round 4294967297", "rounds 7", "near 12", "near;", "tool 0,1", "tool 0 0",
             "tool 3 2", "tool 12", "plan", "plan 0 1", "wait 1", "round 7\t", "round 7 #", "near 1;;near 1",
-            "order 0 due 1 worth 1", "round 7; tool 0 1 2 3 4 5 6 7 8 9 10 11 12", "near 1 ; "};
+            "order 0 due 1 worth 1", "round 7; tool 0 1 2 3 4 5 6 7 8 9 10 11 12", "near 1 ; ", "nearz 1", "neara 1", "bound 3"};
         int[] faults = {0, 3, 0, 5, 6, 8, 8, 6, 5, 0,
             6, 6, 6, 0, 5, 4, 6, 7,
             7, 5, 4, 5, 0, 7, 8, 7,
-            6, 40, 9};
+            6, 40, 9, 0, 0, 0};
         for (int k = 0; k < texts.length; k++) {
             ToolDays x = new ToolDays();
             due("4: '" + texts[k] + "'", read(x, texts[k]), -1 - faults[k]);
@@ -151,8 +151,8 @@ public final class PromisesTest {
             "plan 0 1 wait 1 wait 1", "plan 0 1,", "plan 0 1 1", "plan 0 1 due", "plan 0,1",
             "plan 0 1;order 1 due 1 worth 1", "plan 0 1;order 0 worth 1", "plan 0 1;order 0 due 400 worth 1",
             "plan 0 1;order 0 due 1 worth 0", "plan 0 1;order 0 due 1 worth 100", "plan 0 1;order 0 due 1",
-            "soon 0 1,0 1,0 1,0 1,0 1,0 1,0 1,0 1,0 1"};
-        int[] at = {5, 7, 7, 6, 13, 14, 16, 9, 9, 9, 6, 15, 17, 21, 29, 29, 22, 36};
+            "soon 0 1,0 1,0 1,0 1,0 1,0 1,0 1,0 1,0 1", "plan 0 1#0 1", "plan 0 1:", "plan 0/1"};
+        int[] at = {5, 7, 7, 6, 13, 14, 16, 9, 9, 9, 6, 15, 17, 21, 29, 29, 22, 36, 8, 8, 6};
         for (int k = 0; k < behind.length; k++) {
             ToolDays x = new ToolDays();
             due("4: 'tool;" + behind[k] + "'", read(x, "tool;" + behind[k]), -6 - at[k]);
@@ -356,6 +356,9 @@ public final class PromisesTest {
         due("17: the WAIT of step 0 counts nothing", x.spoils(0, 2), 1);
         x.days(0, 0);
         due("17: there is no NEXT", x.spoils(0, 0), 0);
+        due("16: there is no NEXT", x.run(0, 0, 0), NONE);
+        ToolDays y = from("round 1;tool 0;late 0 1,0 1 wait 2");
+        due("16: a round of 1", y.run(0, 5, 1), 7);
         due("16: begin -1", x.run(0, -1, 0), BEYOND);
         due("16: begin 1000", x.run(0, 1000, 0), BEYOND);
         due("16: i 3", x.run(0, 0, 3), BEYOND);
@@ -386,6 +389,8 @@ public final class PromisesTest {
         due("21: waits(2, 0)", x.waits(2, 0), 4);
         due("21: waits(2, 2)", x.waits(2, 2), 3);
         x.change(0, 1, 2, 0);
+        due("20: day 0", from("tool 0;plan 0 1").latest(0, 6), 0);
+        due("20: a tool without days", from("tool;plan 0 1").latest(0, 6), NONE);
         due("18: none", x.ready(0, 0), NONE);
         due("19: none", x.begun(0, 0), NONE);
         due("20: none", x.latest(0, 400), NONE);
@@ -457,6 +462,24 @@ public final class PromisesTest {
         due("25: no such tool", x.taken(0, 1, 4), BEYOND);
         due("25: great digits", x.taken(Integer.MAX_VALUE, 5, 0), BEYOND);
         promise25Hours();
+        promise25Begins();
+    }
+
+    /** Two orders have a tool's first 16 days; a third one has to begin on a day behind these, up to 200. */
+    private static void promise25Begins() {
+        String long8 = "plan 1 8,1 8,1 8,1 8,1 8,1 8,1 8,1 8;plan 0 1,1 1 wait 1";
+        ToolDays x = from("round 12;tool 7 8;tool 9;" + long8);
+        ToolDays y = from("round 12;tool 8 9;tool 10;" + long8);
+        for (int k = 0; k < 3; k++) {
+            x.order(k / 2, 399, k + 1);
+            y.order(k / 2, 399, k + 1);
+        }
+        due("25: a begin of 200", x.taken(12, 3, 1), 7);
+        due("25: its day", x.taken(12, 3, 2), 201);
+        due("25: not one of 201", y.taken(12, 3, 1), 3);
+        due("25: its day", y.taken(12, 3, 2), 190);
+        due("25: hours of tool 1", y.taken(12, 3, 4), 128);
+        due("25: a tool without days", from("tool;plan 0 1;order 0 due 9 worth 1").taken(0, 1, 2), -1);
     }
 
     private static void promise25Hours() {
@@ -501,6 +524,12 @@ public final class PromisesTest {
         due("26: five, sequence", y.best(2), 30124);
         due("26: as taken", y.taken(30124, 5, 0), 47);
         ToolDays z = from("tool 1;plan 0 1;order 0 due 0 worth 9;order 0 due 0 worth 1");
+        ToolDays w = from("tool 1;plan 0 5");
+        for (int k = 0; k < 5; k++) {
+            w.order(0, 29 - 7 * k, 90 + k);
+        }
+        due("26: the last of all sequences", w.best(2), 43210);
+        due("26: all in time", w.best(0), 460);
         due("26: none in time", z.best(0), 0);
         due("26: none in time, orders", z.best(1), 0);
         due("26: none in time, the first", z.best(2), 1);
@@ -588,6 +617,9 @@ public final class PromisesTest {
         due("32: no such thing", x.nearFor(1, 0), BEYOND);
         x.days(0, days(11));
         x.days(1, 4095);
+        due("31: a round of 1", from("tool 0;plan 0 1").roundFor(0, 1), 1);
+        due("31: ready on day 0, the least", from("tool 0;plan 0 1").roundFor(0, 0), 1);
+        due("32: ready on day 0, the least", from("tool 0;walked 0 1").nearFor(0, 0), -1);
         due("31: only with 12", x.roundFor(0, 0), 12);
         due("31: from 999 on", x.roundFor(0, 999), 12);
     }
@@ -603,6 +635,7 @@ public final class PromisesTest {
             good += (z >>> 8) % 60 % 7 == 1 ? 0 : 1;
         }
         due("33: chance(0, 40)", x.chance(0, 40), good);
+        due("33: a tool without days", from("tool;plan 0 1").chance(0, 40), 0);
         due("33: z", x.count(6), z);
         due("33: chance(0, 0)", x.chance(0, 0), BEYOND);
         due("33: chance(0, 41)", x.chance(0, 41), BEYOND);
@@ -740,6 +773,11 @@ public final class PromisesTest {
         due("40: tool 2", x.days(2, 1), 5);
         x.write(0, 0, -1);
         due("40: none", x.load(0), 0);
+        x.sheet(0, 32, 3);
+        due("40: a sheet anew is all 0", x.load(0), 3);
+        for (int k = 0; k < 3; k++) {
+            due("40: a sheet anew is all 0", x.days(k, 1), 0);
+        }
     }
 
     private static void judged(ToolDays x, int want, int thing, int... days) {
@@ -769,7 +807,11 @@ public final class PromisesTest {
         judged(x, 0, 2, 7);
         judged(x, 1, 2, 8);
         judged(x, 1, 2, -1);
+        judged(x, 0, 2, 0);
         judged(x, 0, 3, 8);
+        x.days(0, 4095);
+        judged(x, 0, 3, 999);
+        judged(x, 1, 3, 1000);
         due("41: no such thing", x.judge(0, 4), BEYOND);
         due("41: MISSING ahead of the thing", x.judge(1, 9), MISSING);
         due("41: no such sheet", x.judge(4, 0), BEYOND);

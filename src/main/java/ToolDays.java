@@ -865,7 +865,7 @@ public final class ToolDays {
                 case WALKED:
                     return walkedFrom(tool, day);
                 case BEST:
-                    return i == town.stepCounts[thing] - 1 ? bestFrom(tool, day) : walkedFrom(tool, day);
+                    return bestOf(walkedFrom(tool, day), day, i == town.stepCounts[thing] - 1);
                 case LATE:
                     return plannedFrom(tool, i, i == 0 ? day : day + 1);
                 default:
@@ -887,10 +887,9 @@ public final class ToolDays {
         }
 
         /** Day 0 of the round needs no tool's day, so it also stands where a walked step would have none. */
-        private int bestFrom(int tool, int day) {
-            int walked = walkedFrom(tool, day);
+        private int bestOf(int walked, int day, boolean isLast) {
             int zero = zeroFrom(day);
-            return isSooner(zero, walked) ? zero : walked;
+            return isLast && isSooner(zero, walked) ? zero : walked;
         }
 
         /** Fills runDays; answers the step at which the run spoils, below 0 if it doesn't. */
@@ -1191,8 +1190,7 @@ public final class ToolDays {
         private static final int SEMICOLON = 3;
         private static final int COMMA = 4;
         private static final int NO_TOKEN = 5;
-        /** Above every number that can stand anywhere; greater ones count as this, lest they wrap around. */
-        private static final int TOO_MUCH = 1000;
+        private static final int MOST_NUMBER = 999;
 
         private final Tape tape;
         private final Town town;
@@ -1437,10 +1435,11 @@ public final class ToolDays {
             return sign == ',' ? COMMA : NO_TOKEN;
         }
 
+        /** A number that is too great already needs no more digits, which could wrap it around. */
         private int numberAtHand() {
             int number = 0;
-            for (int at = start; at < end; at++) {
-                number = Math.min(TOO_MUCH, number * 10 + tape.bytes[at] - '0');
+            for (int at = start; at < end && number <= MOST_NUMBER; at++) {
+                number = number * 10 + tape.bytes[at] - '0';
             }
             return number;
         }

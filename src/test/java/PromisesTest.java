@@ -173,6 +173,10 @@ public final class PromisesTest {
             + "order 7 due 0 worth 1"), 4);
         due("4: a 6th order", read(x, "order 0 due 0 worth 1; order x"), -24);
         due("4: orders", x.count(4), 4);
+        due("4: a full tape of blanks", read(new ToolDays(), " ".repeat(120)), -121);
+        due("4: a full tape of digits", read(new ToolDays(), "near " + "9".repeat(115)), -6);
+        due("4: a full tape of zeros", read(new ToolDays(), "near " + "0".repeat(115)), 1);
+        due("4: a full tape of letters", read(new ToolDays(), "n".repeat(120)), -1);
         ToolDays y = from("tool;plan 0 1,0 1,0 1,0 1,0 1,0 1,0 1,0 1");
         due("4: 8 steps", y.thingOf(0, -2, 0), 8);
     }

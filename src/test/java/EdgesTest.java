@@ -351,6 +351,45 @@ public final class EdgesTest {
         due("ready(0, 0) as ahead", x.ready(0, 0), 2);
     }
 
+    /** What only tells must leave all as it was, status() too. */
+    private static void told(String call, ToIntFunction<ToolDays> act) {
+        ToolDays x = rich();
+        int all = x.status(-1);
+        act.applyAsInt(x);
+        due(call + ", then status(-1)", x.status(-1), all);
+        String is = look(x);
+        String was = look(rich());
+        if (!is.equals(was)) {
+            fault(call + " changed " + was + " to " + is);
+        }
+    }
+
+    private static void callsThatTell() {
+        of("Nothing is promised beyond the answers and state changes described above");
+        told("may(0, 1)", x -> x.may(0, 1));
+        told("thingOf(0, 1, 2)", x -> x.thingOf(0, 1, 2));
+        told("next(0, 0, 3)", x -> x.next(0, 0, 3));
+        told("run(0, 3, 1)", x -> x.run(0, 3, 1));
+        told("spoils(1, 3)", x -> x.spoils(1, 3));
+        told("ready(0, 3)", x -> x.ready(0, 3));
+        told("begun(0, 3)", x -> x.begun(0, 3));
+        told("latest(0, 30)", x -> x.latest(0, 30));
+        told("waits(0, 3)", x -> x.waits(0, 3));
+        told("orderOf(1, 2)", x -> x.orderOf(1, 2));
+        told("taken(10, 2, 0)", x -> x.taken(10, 2, 0));
+        told("best(2)", x -> x.best(2));
+        told("most(0)", x -> x.most(0));
+        told("chokes(0)", x -> x.chokes(0));
+        told("idle(5)", x -> x.idle(5));
+        told("turned(0)", x -> x.turned(0));
+        told("roundFor(0, 3)", x -> x.roundFor(0, 3));
+        told("nearFor(0, 3)", x -> x.nearFor(0, 3));
+        told("as(1, 0)", x -> x.as(1, 0));
+        told("judge(0, 0)", x -> x.judge(0, 0));
+        told("count(3)", x -> x.count(3));
+        told("status(-1)", x -> x.status(-1));
+    }
+
     private static void quotientsAndSets() {
         of("Quotients are cut.");
         due("8 by 3", from("tool 0;plan 0 3").most(0), 2);
@@ -503,6 +542,38 @@ public final class EdgesTest {
         due("8 steps", repeat(5, z, w -> w.step(0, 0, 1, 0)), 8);
         due("a 9th step", z.step(0, 0, 1, 0), FULL);
         due("8 steps", z.thingOf(0, -2, 0), 8);
+        lastThing();
+    }
+
+    /** The 8th of 8 things with its 8 steps, of the 8th of 8 tools, held by the last spot. */
+    private static void lastThing() {
+        ToolDays x = from("round 2;tool;tool;tool;tool;tool;tool;tool;tool 1");
+        repeat(8, x, y -> y.thing(SOON, 7, 1));
+        due("8 steps", repeat(7, x, y -> y.step(7, 7, 1, 0)), 8);
+        repeat(5, x, y -> y.order(7, 9, 9));
+        x.sheet(3, 32, 8);
+        for (int i = 0; i < 8; i++) {
+            x.write(3, i, 1);
+        }
+        due("next(7, 7, 0)", x.next(7, 7, 0), 1);
+        due("run(7, 0, 7)", x.run(7, 0, 7), 1);
+        due("spoils(7, 0)", x.spoils(7, 0), NONE);
+        due("ready(7, 0)", x.ready(7, 0), 1);
+        due("begun(7, 0)", x.begun(7, 0), 0);
+        due("latest(7, 400)", x.latest(7, 400), 399);
+        due("waits(7, 0)", x.waits(7, 0), 0);
+        due("most(7)", x.most(7), 1);
+        due("chokes(7)", x.chokes(7), 7);
+        due("turned(7)", x.turned(7), 701);
+        due("roundFor(7, 0)", x.roundFor(7, 0), 2);
+        due("nearFor(7, 0)", x.nearFor(7, 0), -1);
+        due("chance(7, 40)", x.chance(7, 40), 40);
+        due("judge(3, 7)", x.judge(3, 7), 0);
+        due("taken(43210, 5, 10)", x.taken(43210, 5, 10), 40);
+        due("taken(43210, 5, 2)", x.taken(43210, 5, 2), 9);
+        due("best(0)", x.best(0), 45);
+        due("hold(9, 7)", x.hold(9, 7), 1);
+        due("as(9, 0)", x.as(9, 0), 7);
     }
 
     private static void next(ToolDays x, int i, int... behindAndDue) {
@@ -633,6 +704,13 @@ public final class EdgesTest {
     }
 
     private static void runs() {
+        of("NEXT of STEP i behind a DAY d (that of the STEP ahead; the begin for STEP 0)");
+        ToolDays v = from("tool 2;tool 0 4;plan 0 1,1 1,1 1");
+        due("run(0, 0, 0): behind the begin", v.run(0, 0, 0), v.next(0, 0, 0));
+        due("run(0, 0, 1): behind day 2, not the begin", v.run(0, 0, 1), 4);
+        due("run(0, 0, 2): behind day 4", v.run(0, 0, 2), 7);
+        due("next(0, 1, 0): behind day 0, wherever step 0 is", v.next(0, 1, 0), 4);
+
         of("A RUN of a THING from a begin: its STEPS one by one, each NEXT behind the one ahead.");
         ToolDays x = from("tool 1;tool 1 3;plan 0 1,1 1,1 1");
         int[][] runs = {{0, 1, 3, 8}, {1, 1, 3, 8}, {2, 8, 10, 15}, {999, 1002, 1004, 1009}};
@@ -1369,9 +1447,16 @@ public final class EdgesTest {
             due("taken(" + f[0] + ", " + f[1] + ", 0)", x.taken(f[0], f[1], 0), 1 << f[2]);
         }
 
-        of(25, "2 the DAY of the last STEP of all that are made (-1: none), 3 + k HOURS that TOOL k has in all.");
-        ToolDays y = from("tool 1;tool 3;plan 0 8;plan 1 5;order 0 due 8 worth 1;order 0 due 8 worth 2;order 1 due 3 worth 4;order 0 due 14 worth 8");
-        due("none", y.taken(0, 0, 2), -1);
+        of(25, "what 0 WORTHS of those IN TIME, 1 these, as a set, 2 the DAY of the last STEP of all that are made (-1: none), 3 + k HOURS that TOOL k has in all.");
+        ToolDays y = from("tool 1;tool 3;plan 0 8;plan 1 5", "order 0 due 8 worth 10;order 0 due 8 worth 20;order 1 due 3 worth 40;order 0 due 14 worth 80");
+        due("no places: worths", y.taken(0, 0, 0), 0);
+        due("no places: set", y.taken(0, 0, 1), 0);
+        due("no places: day", y.taken(0, 0, 2), -1);
+        due("no places: hours", y.taken(0, 0, 3), 0);
+        due("worths of all but the one that isn't in time", y.taken(1023, 4, 0), 70);
+        due("these, as a set", y.taken(1023, 4, 1), 0b0111);
+        due("another one isn't in time", y.taken(3021, 4, 0), 130);
+        due("these, as a set", y.taken(3021, 4, 1), 0b1101);
         due("one", y.taken(0, 1, 2), 1);
         due("the greatest day, not that of the last one", y.taken(12, 3, 2), 8);
         due("one that isn't made", y.taken(13, 3, 2), 8);
@@ -1387,7 +1472,7 @@ public final class EdgesTest {
         due("digits MIN", y.taken(MIN, 5, 0), BEYOND);
         due("digits MAX", y.taken(MAX, 5, 0), BEYOND);
         due("order 4 of 4", y.taken(4, 1, 0), BEYOND);
-        due("order 3 of 4", y.taken(3, 1, 0), 8);
+        due("order 3 of 4", y.taken(3, 1, 0), 80);
         due("order 9", y.taken(9, 1, 0), BEYOND);
         due("one twice", y.taken(11, 2, 0), BEYOND);
         due("one twice, apart", y.taken(121, 3, 0), BEYOND);
@@ -1397,7 +1482,7 @@ public final class EdgesTest {
         due("1 alone", y.taken(1, 1, 1), 2);
         due("places -1", y.taken(0, -1, 0), BEYOND);
         due("places 0", y.taken(0, 0, 0), 0);
-        due("places 4", y.taken(123, 4, 0), 7);
+        due("places 4", y.taken(123, 4, 0), 70);
         due("places 5, of 4 orders", y.taken(1234, 5, 0), BEYOND);
         due("places 6", y.taken(0, 6, 0), BEYOND);
         due("places MAX", y.taken(0, MAX, 0), BEYOND);
@@ -1943,6 +2028,7 @@ public final class EdgesTest {
         findings();
         orderOfFindings();
         refusedCalls();
+        callsThatTell();
         quotientsAndSets();
         roundAndTools();
         daysBeyondTheRound();

@@ -30,7 +30,6 @@ public final class EdgesTest {
 
     private static String document = "";
     private static String sentence = "";
-    private static int promise = 0;
     private static final List<Integer> promises = new ArrayList<>();
     private static int sentences = 0;
     private static int asked = 0;
@@ -48,7 +47,6 @@ public final class EdgesTest {
     /** The same for words under the heading of a promise. */
     private static void of(int number, String words) {
         of(words);
-        promise = number;
         promises.add(number);
         String head = "## Promise " + number + ": ";
         int begin = document.indexOf(head);

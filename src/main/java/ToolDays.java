@@ -969,7 +969,7 @@ public final class ToolDays {
 
         private final Town town;
         private final Almanac almanac;
-        /** Which orders have runs that don't spoil, and the days of these, for each begin within one round. */
+        /** Which runs of orders don't spoil and fit a tool's day, and their days, for each begin within one round. */
         private final boolean[] isGood = new boolean[MOST_ORDERS * MOST_ROUND];
         private final int[] plotted = new int[MOST_ORDERS * MOST_ROUND * MOST_STEPS];
         private final int[] hoursOn = new int[MOST_TOOLS * DAYS];
@@ -1011,12 +1011,15 @@ public final class ToolDays {
 
         /** Stands ahead of taking orders, as things, tools and the round may have changed. */
         void plotRuns() {
+            forget();
             for (int order = 0; order < town.orders; order++) {
                 int thing = town.orderNumber(order, THING);
                 for (int begin = 0; begin < town.round; begin++) {
                     int row = order * MOST_ROUND + begin;
-                    isGood[row] = almanac.goThrough(thing, begin) < 0;
+                    boolean spoils = almanac.goThrough(thing, begin) >= 0;
                     System.arraycopy(almanac.runDays, 0, plotted, row * MOST_STEPS, MOST_STEPS);
+                    // A run that finds too few hours where nothing is taken yet finds them nowhere.
+                    isGood[row] = !spoils && hasHours(order, row, 0);
                 }
             }
         }
